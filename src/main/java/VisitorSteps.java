@@ -379,7 +379,7 @@ public final class VisitorSteps {
             distance[goalCell[goal]] = 0;
             queue[0] = goalCell[goal];
             int filled = 1;
-            for (int i = 0; i < filled; i++) {
+            for (int i = 0; i < filled && i < queue.length; i++) {
                 int cell = queue[i];
                 for (int side = 0; side < SIDES; side++) {
                     int next = neighbour(cell, side);
