@@ -485,6 +485,15 @@ public final class PromisesTest {
         z.door(3, 0);
         z.door(1, 1);
         due("of three doors the nearest", z.escape(), 2);
+
+        VisitorSteps w = new VisitorSteps(4, 4, 0);
+        w.room(1);
+        w.door(0, 0);
+        w.arrives(0, 0, 0);
+        w.arrives(0, 0, 0);
+        w.run(1);
+        due("nobody comes any more", w.escape(), 1);
+        due("but afterwards he does", w.run(1), 1);
     }
 
     private static void counted() {
