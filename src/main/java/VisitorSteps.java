@@ -381,7 +381,7 @@ public final class VisitorSteps {
             int filled = 1;
             for (int i = 0; i < filled && i < queue.length; i++) {
                 int cell = queue[i];
-                for (int side = 0; side < SIDES; side++) {
+                for (int side = 0; side < SIDES && filled < queue.length; side++) {
                     int next = neighbour(cell, side);
                     if (next != NONE && !wall[next] && distance[next] == NONE) {
                         distance[next] = distance[cell] + 1;
@@ -592,7 +592,7 @@ public final class VisitorSteps {
             if (house.distanceTo(one.goal, one.cell) == NONE) {
                 one.turnTo(choose(one));
             }
-            if (one.goal == NONE) {
+            if (!house.isGoal(one.goal)) {
                 return;
             }
             if (house.goalCell[one.goal] != one.cell) {
