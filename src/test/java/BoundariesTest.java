@@ -43,6 +43,7 @@ public final class BoundariesTest {
         countedLimits();
         sums();
         sumAnew();
+        sumAnewWithDoorsAndGroups();
         fitRounds();
         fitLimits();
         fitKeepsLess();
@@ -790,6 +791,32 @@ public final class BoundariesTest {
         x.door(3, 0);
         Due.due("with a new door the first is out in time", x.sum(), 4);
         Due.due("all that is not anew", x.through(1, false), 0);
+    }
+
+    private static void sumAnewWithDoorsAndGroups() {
+        Due.sentence("run anew: with all that is told now (each with a second, a door, and a group)");
+        VisitorSteps x = new VisitorSteps(5, 4, 9);
+        x.door(0, 0);
+        x.door(4, 0);
+        x.thing(4, 0, 1, 1);
+        x.counted(0, 0);
+        x.arrives(0, 1, 0);
+        x.run(1);
+        Due.due("he has come through his door", x.sum(), 0);
+        x.run(1);
+        Due.due("where the thing is", x.sum(), 1);
+        VisitorSteps y = new VisitorSteps(5, 4, 9);
+        y.door(0, 0);
+        y.thing(1, 0, 1, 3);
+        y.counted(0, 0);
+        y.arrives(0, 0, 2);
+        y.arrives(3, 0, 2);
+        int[] seen = {0, 0, 0, 0, 0, 0, 0, 1, 2};
+        for (int s = 0; s < seen.length; s++) {
+            y.run(1);
+            Due.due("anew behind second " + s + " in a group", y.sum(), seen[s] * seen[s]);
+            Due.due("in fact behind second " + s, y.seen(0), seen[s]);
+        }
     }
 
     /** So many visitors, each with patience for one of two things, so that seeds and interests alone tell what is seen. */

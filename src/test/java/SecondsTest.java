@@ -17,6 +17,7 @@ public final class SecondsTest {
         looksAsLongAsItTakes();
         groupLooksAsLong();
         groupIsWaitedFor();
+        groupWithOtherGoals();
         groupIsNotWaitedFor();
         groupsApart();
         choosesAmongInterests();
@@ -411,6 +412,27 @@ public final class SecondsTest {
         Due.due("but not before the first had looked", z.about(0, 2), 0);
         z.run(1);
         Due.due("now the first waits for nobody", z.about(0, 2), 1);
+    }
+
+    private static void groupWithOtherGoals() {
+        Due.sentence("(in a group) all of his group who are inside have that goal, too");
+        // The first has chosen when there was but one thing; the second takes another one, in the same cell.
+        VisitorSteps x = new VisitorSteps(5, 4, 6);
+        x.door(0, 0);
+        x.thing(0, 0, 1, 3);
+        x.arrives(0, 0, 1);
+        x.run(2);
+        x.thing(0, 0, 100, 3);
+        x.arrives(2, 0, 1);
+        x.run(2);
+        Due.due("the goal of the first", x.about(0, 1), 0);
+        Due.due("the goal of the second", x.about(1, 1), 1);
+        x.run(50);
+        Due.due("both are in one cell", x.crowd(0, 0), 2);
+        Due.due("and wait for each other for ever", x.seen(0) + x.seen(1), 0);
+        Due.due("the first still has his", x.about(0, 1), 0);
+        Due.due("the second still has his", x.about(1, 1), 1);
+        Due.due("an escape does not wait", x.escape(), 1);
     }
 
     private static void groupIsNotWaitedFor() {
