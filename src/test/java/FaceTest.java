@@ -40,10 +40,29 @@ public final class FaceTest {
         "Random", "Thread", "java.io", "java.nio", "package ",
     };
 
+    private static final int MOST_CLASSES = 12;
+    private static final int MOST_FIELDS = 20;
+    private static final int MOST_PARAMETERS = 7;
+    private static final int MOST_LINES = 60;
+    private static final List<Class<?>> CONSTANTS = List.of(int.class, long.class, boolean.class, char.class, String.class,
+        int[].class, long[].class, char[].class, byte[].class);
+
     private static int wrong = 0;
 
     public static void main(String[] args) throws Exception {
         members();
+        shape(VisitorSteps.class);
+        Class<?>[] inside = VisitorSteps.class.getDeclaredClasses();
+        if (inside.length + 1 > MOST_CLASSES) {
+            fault("too many classes: " + inside.length);
+        }
+        for (Class<?> one : inside) {
+            int modifiers = one.getModifiers();
+            if (!Modifier.isStatic(modifiers) || Modifier.isPublic(modifiers) || Modifier.isProtected(modifiers)) {
+                fault("a class inside that is not static, or is seen outside: " + one);
+            }
+            shape(one);
+        }
         source();
         System.out.println(wrong == 0 ? "the face is as due" : wrong + " faults of the face");
         if (wrong != 0) {
@@ -89,6 +108,26 @@ public final class FaceTest {
         }
     }
 
+    /** Rules 5 and 11 of LANGUAGE.md: what is static, and how large a class may be. */
+    private static void shape(Class<?> type) {
+        int fields = 0;
+        for (Field f : type.getDeclaredFields()) {
+            boolean isStatic = Modifier.isStatic(f.getModifiers());
+            fields += isStatic ? 0 : 1;
+            if (isStatic && (!Modifier.isFinal(f.getModifiers()) || !CONSTANTS.contains(f.getType()))) {
+                fault("a static field that is no constant: " + f);
+            }
+        }
+        if (fields > MOST_FIELDS) {
+            fault(fields + " fields in " + type);
+        }
+        for (Method m : type.getDeclaredMethods()) {
+            if (m.getParameterCount() > MOST_PARAMETERS) {
+                fault("too many parameters: " + m);
+            }
+        }
+    }
+
     private static void add(TreeSet<String> found, Executable e, String before) {
         if (Modifier.isPrivate(e.getModifiers()) || e.isSynthetic()) {
             return;
@@ -113,9 +152,27 @@ public final class FaceTest {
                 fault("the source holds " + word);
             }
         }
+        lengths(text.split("\n"));
         for (String line : text.split("\n")) {
             if (line.startsWith("import ") && !line.equals("import java.util.Arrays;")) {
                 fault("the source holds " + line);
+            }
+        }
+    }
+
+    /** A method starts with a line that is indented as the line of its closing brace. */
+    private static void lengths(String[] lines) {
+        for (int start = 0; start < lines.length; start++) {
+            String indent = lines[start].replaceAll("\\S.*", "");
+            boolean member = indent.length() == 4 || indent.length() == 8;
+            if (member && lines[start].matches("\\s+[\\w\\[\\]<> ]+\\(.*") && !lines[start].endsWith(";")) {
+                int end = start;
+                while (end < lines.length && !lines[end].equals(indent + "}")) {
+                    end++;
+                }
+                if (end - start + 1 > MOST_LINES) {
+                    fault(end - start + 1 + " lines from " + lines[start]);
+                }
             }
         }
     }
